@@ -340,9 +340,9 @@ public final class SlowPaths {
         int together = 0;
         int all = 1 << net.gates;
         for (int come = 0; come < all; come++) {
-            if ((come >> gate & 1) == 0) {
+            if (((come >> gate) & 1) == 0) {
                 int ahead = Integer.bitCount(come);
-                int more = spans.greatest(net, now.delays, come | 1 << gate)
+                int more = spans.greatest(net, now.delays, come | (1 << gate))
                         - spans.greatest(net, now.delays, come);
                 together += more * ordersOf(ahead) * ordersOf(net.gates - 1 - ahead);
             }
@@ -526,14 +526,14 @@ public final class SlowPaths {
     private int chanceOf(int slowed, int x) {
         int weight = 1;
         for (int g = 0; g < net.gates; g++) {
-            weight *= (slowed >> g & 1) == 1 ? x : CHANCE_WHOLE - x;
+            weight *= ((slowed >> g) & 1) == 1 ? x : CHANCE_WHOLE - x;
         }
         return weight;
     }
 
     private void slowTrial(int slowed) {
         for (int g = 0; g < net.gates; g++) {
-            trial.delays[g] = now.delays[g] + ((slowed >> g & 1) == 1 ? CHANCE_DELAY : 0);
+            trial.delays[g] = now.delays[g] + (((slowed >> g) & 1) == 1 ? CHANCE_DELAY : 0);
         }
     }
 
@@ -606,7 +606,7 @@ public final class SlowPaths {
 
         private boolean readGate(Net to, int g) {
             int kind = kindOf(letter());
-            if (kind == NONE || kind != NOT && to.inputs + g < 2) {
+            if (kind == NONE || (kind != NOT && to.inputs + g < 2)) {
                 return false;
             }
             at++;
@@ -707,7 +707,7 @@ public final class SlowPaths {
 
         /** A PAIR less the bits of INPUTS that there are not. */
         int pairWithin(int pair) {
-            return pair & (allBits() << 4 | allBits());
+            return pair & ((allBits() << 4) | allBits());
         }
 
         /**
@@ -732,11 +732,11 @@ public final class SlowPaths {
             int size = 0;
             int linked = 0;
             for (int g = 0; g < gates; g++) {
-                if ((set >> (gates - 1 - g) & 1) == 1) {
+                if (((set >> (gates - 1 - g)) & 1) == 1) {
                     if (lefts[g] != signal && rights[g] != signal) {
                         return;
                     }
-                    linked |= (lefts[g] == signal ? 1 : 2) << 2 * g;
+                    linked |= (lefts[g] == signal ? 1 : 2) << (2 * g);
                     steps[paths * MOST_GATES + size] = g;
                     size++;
                     signal = FIRST_GATE + g;
@@ -763,7 +763,7 @@ public final class SlowPaths {
         /** The links of a PATH's first GATES, so many of them (1 or more, and no more than it has). */
         int beginning(int path, int many) {
             int last = steps[path * MOST_GATES + many - 1];
-            return links[path] & (1 << 2 * last + 2) - 1;
+            return links[path] & ((1 << (2 * last + 2)) - 1);
         }
 
         boolean shareBeginning(int path, int other, int many) {
@@ -861,8 +861,8 @@ public final class SlowPaths {
 
         void settle(Net net, int[] kinds, int pair) {
             for (int i = 0; i < net.inputs; i++) {
-                int was = pair >> 4 + i & 1;
-                int is = pair >> i & 1;
+                int was = (pair >> (4 + i)) & 1;
+                int is = (pair >> i) & 1;
                 of[i] = was == is ? is : 2 + is;
             }
             links = 0;
@@ -871,8 +871,8 @@ public final class SlowPaths {
                 int left = of[net.lefts[g]];
                 int right = kinds[g] == NOT ? left : of[net.rights[g]];
                 of[FIRST_GATE + g] = made(kinds[g], left, right);
-                addLink(kinds[g], left, right, 1 << 2 * g);
-                addLink(kinds[g], right, left, 2 << 2 * g);
+                addLink(kinds[g], left, right, 1 << (2 * g));
+                addLink(kinds[g], right, left, 2 << (2 * g));
             }
         }
 
@@ -961,7 +961,7 @@ public final class SlowPaths {
         void fitTo(Net net, int[] kinds) {
             int packedKinds = 0;
             for (int g = 0; g < net.gates; g++) {
-                packedKinds |= kinds[g] << 3 * g;
+                packedKinds |= kinds[g] << (3 * g);
             }
             if (packedKinds == madeFor) {
                 return;
@@ -979,17 +979,18 @@ public final class SlowPaths {
             if (!net.hasPair(pair)) {
                 return;
             }
+            int first = pair >> 4;
+            int second = pair & 15;
             levels.settle(net, kinds, pair);
             sureLinks[pair] = levels.sureLinks;
             for (int p = 0; p < net.paths; p++) {
-                if (goesOver(pair, net.starts[p], 1) && holds(pair, net.links[p])) {
-                    risers[pair] |= 1L << p;
-                } else if (goesOver(pair, net.starts[p], 0) && holds(pair, net.links[p])) {
-                    fallers[pair] |= 1L << p;
+                if (holds(pair, net.links[p])) {
+                    risers[pair] |= (long) (((second & ~first) >> net.starts[p]) & 1) << p;
+                    fallers[pair] |= (long) (((first & ~second) >> net.starts[p]) & 1) << p;
                 }
             }
-            if (pair >> 4 == (pair & 15)) {
-                captured[pair & 15] = nextPattern(net);
+            if (first == second) {
+                captured[first] = nextPattern(net);
             }
         }
 
@@ -1003,7 +1004,7 @@ public final class SlowPaths {
         }
 
         private static boolean goesOver(int pair, int input, int to) {
-            return (pair >> 4 + input & 1) != to && (pair >> input & 1) == to;
+            return ((pair >> (4 + input)) & 1) != to && ((pair >> input) & 1) == to;
         }
 
         private boolean holds(int pair, int links) {
@@ -1012,7 +1013,7 @@ public final class SlowPaths {
 
         boolean provesPath(int pair, int path, int rises) {
             long proven = rises == 1 ? risers[pair] : fallers[pair];
-            return (proven >> path & 1) == 1;
+            return ((proven >> path) & 1) == 1;
         }
 
         int provenPaths() {
@@ -1032,7 +1033,7 @@ public final class SlowPaths {
                 case 0:
                     return true;
                 case 1:
-                    return (second & ~1) == (first << 1 & net.allBits());
+                    return (second & ~1) == ((first << 1) & net.allBits());
                 default:
                     return captured[first] == second;
             }
@@ -1113,8 +1114,8 @@ public final class SlowPaths {
 
         void run(Net net, int[] kinds, int[] delays, int pair) {
             for (int i = 0; i < net.inputs; i++) {
-                before[i] = -(long) (pair >> 4 + i & 1);
-                after[i] = -(long) (pair >> i & 1);
+                before[i] = -(long) ((pair >> (4 + i)) & 1);
+                after[i] = -(long) ((pair >> i) & 1);
                 low[i] = after[i];
                 high[i] = after[i];
             }
@@ -1131,11 +1132,11 @@ public final class SlowPaths {
         }
 
         private long lowLater(int signal, int delay) {
-            return low[signal] << delay | before[signal] >>> HALF - delay;
+            return (low[signal] << delay) | (before[signal] >>> (HALF - delay));
         }
 
         private long highLater(int signal, int delay) {
-            return high[signal] << delay | low[signal] >>> HALF - delay;
+            return (high[signal] << delay) | (low[signal] >>> (HALF - delay));
         }
 
         private static long made(int kind, long left, long right) {
@@ -1154,7 +1155,7 @@ public final class SlowPaths {
         }
 
         int at(int signal, int t) {
-            long bits = t < HALF ? low[signal] >>> t : high[signal] >>> t - HALF;
+            long bits = t < HALF ? low[signal] >>> t : high[signal] >>> (t - HALF);
             return (int) (bits & 1);
         }
 
@@ -1176,7 +1177,7 @@ public final class SlowPaths {
             for (int g = 0; g < net.gates; g++) {
                 int left = upTo[net.lefts[g]];
                 int right = net.rights[g] == NONE ? left : upTo[net.rights[g]];
-                span = Math.max(left, right) + ((come >> g & 1) == 1 ? delays[g] : 0);
+                span = Math.max(left, right) + (((come >> g) & 1) == 1 ? delays[g] : 0);
                 upTo[FIRST_GATE + g] = span;
             }
             return span;
