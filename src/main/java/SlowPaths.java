@@ -766,8 +766,10 @@ public final class SlowPaths {
             return links[path] & ((1 << (2 * last + 2)) - 1);
         }
 
-        boolean shareBeginning(int path, int other, int many) {
-            return starts[path] == starts[other] && sizes[other] >= many
+        /** Whether a lesser PATH has the same first GATES: such PATHS are numbered side by side. */
+        boolean isSharedBefore(int path, int many) {
+            int other = path - 1;
+            return other >= 0 && starts[path] == starts[other] && sizes[other] >= many
                     && beginning(path, many) == beginning(other, many);
         }
     }
@@ -1044,9 +1046,7 @@ public final class SlowPaths {
             for (int p = 0; p < net.paths; p++) {
                 for (int to = 0; to <= 1; to++) {
                     int alive = gatesAlive(net, p, to);
-                    // PATHS that share a BEGINNING are numbered side by side
-                    boolean told = p > 0 && alive < net.sizes[p] && net.shareBeginning(p, p - 1, alive + 1);
-                    if (alive < net.sizes[p] && !told) {
+                    if (alive < net.sizes[p] && !net.isSharedBefore(p, alive + 1)) {
                         dead++;
                     }
                 }

@@ -144,6 +144,13 @@ public final class PairsTest {
         SlowPaths shared = Due.told("C1~a&a0~1&12>a");
         due.is("four paths", shared.count(3), 4);
         due.is("pruned() of shared beginnings", shared.pruned(), 4);
+        // b has to be 1 at gate 0 and 0 at gate 1: a dies there; b itself dies by gate 0 if it rises
+        due.is("pruned() of a & b | b", Due.told("C2&ab|0b>ab").pruned(), 3);
+        SlowPaths fewer = Due.told("C3~a|bc>abc");
+        due.is("pruned() of more inputs", fewer.pruned(), 0);
+        Due.type(fewer, "C1~a&a0>a");
+        fewer.circuit();
+        due.is("pruned() of fewer inputs", fewer.pruned(), 4);
         SlowPaths turned = Due.told("C3&ab|0c&1a>012");
         due.is("pruned()", turned.pruned(), 1);
         due.is("count(4)", turned.count(4), 7);

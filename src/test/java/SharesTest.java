@@ -76,6 +76,7 @@ public final class SharesTest {
         for (int g = 0; g < 8; g++) eight.slow(g, 9);
         slowsIs(eight, 1, 95, 10, 1, 1);
         slowsIs(eight, 1, 96, 10, 0, 1);
+        slowsIs(eight, 1, 99, 10, 0, 1);
         // a and not a, and the longer the ~ the longer it is wrong
         SlowPaths glitch = Due.told("C1~a&a0>a");
         slowsIs(glitch, 1, 1, 5, 1, 2);

@@ -5,6 +5,7 @@ public final class WavesTest {
     public static void main(String[] args) {
         wave();
         waveFar();
+        waveOfKinds();
         glitch();
         late();
         judgeActs();
@@ -40,6 +41,25 @@ public final class WavesTest {
                 for (int t = 0; t <= 99; t++) {
                     int over = t >= delay * (g + 1) ? 1 : 0;
                     due.is("wave(" + g + ", 1, " + t + ")", x.wave(g, 1, t), g % 2 == 0 ? 1 - over : over);
+                }
+        }
+    }
+
+    private static void waveOfKinds() {
+        // of a and b: 00, 10, 01, 11
+        int[][] made = {{0, 0, 0, 1}, {0, 1, 1, 1}, {1, 1, 1, 0}, {1, 0, 0, 0}};
+        SlowPaths x = Due.told("C2&ab>ab");
+        x.slow(0, 2);
+        for (int kind = 0; kind < 4; kind++) {
+            if (kind > 0) x.turn(0, kind);
+            for (int first = 0; first < 4; first++)
+                for (int second = 0; second < 4; second++) {
+                    int pair = Due.pair(first, second);
+                    due.is("kind " + kind + ", pair " + pair + ", t 1", x.wave(0, pair, 1), made[kind][first]);
+                    due.is("kind " + kind + ", pair " + pair + ", t 2", x.wave(0, pair, 2), made[kind][second]);
+                    int late = made[kind][first] != made[kind][second] ? 1 : 0;
+                    due.is("kind " + kind + ", pair " + pair + ", late at 1", x.late(pair, 1), late);
+                    due.is("kind " + kind + ", pair " + pair + ", late at 2", x.late(pair, 2), 0);
                 }
         }
     }
@@ -135,6 +155,9 @@ public final class WavesTest {
         judged(x, 1, 5001, -9);
         judged(x, 1, 5002, 0);
         judged(x, 1, 5030, -9);
+        judged(x, 1, 5031, -9);
+        judged(x, 1, 5032, 0);
+        judged(x, 1, 5039, 0);
         judged(x, 1, 5040, 0);
         judged(x, 1, 5990, 0);
         judged(x, 1, 6000, -9);
