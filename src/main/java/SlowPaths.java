@@ -467,7 +467,8 @@ public final class SlowPaths {
             case 4:
                 return pathsAsLong(middle) >= low;
             case 5:
-                return net.hasPath(middle) && low <= 1 && canBeProven(middle, low);
+                table.fitTo(net, trial.kinds);
+                return net.hasPath(middle) && low <= 1 && table.canProve(middle, low);
             case 6:
                 table.fitTo(net, trial.kinds);
                 return middle / 10 == 0 && table.deadBeginnings(net) >= doing % 100;
@@ -500,16 +501,6 @@ public final class SlowPaths {
             }
         }
         return many;
-    }
-
-    private boolean canBeProven(int path, int rises) {
-        table.fitTo(net, trial.kinds);
-        for (int pair = 0; pair < PAIRS; pair++) {
-            if (table.provesPath(pair, path, rises)) {
-                return true;
-            }
-        }
-        return false;
     }
 
     private boolean agreesWithSeen() {
@@ -893,6 +884,8 @@ public final class SlowPaths {
             }
         }
 
+        // of 2 and 3, as of 0 and 1, the last bit is where it ends: & and | of the ends tell which
+
         private static int both(int left, int right) {
             if (left == 0 || right == 0) {
                 return 0;
@@ -900,7 +893,7 @@ public final class SlowPaths {
             if (left == 1 && right == 1) {
                 return 1;
             }
-            return endsAt(left) == 1 && endsAt(right) == 1 ? 3 : 2;
+            return 2 + (left & right & 1);
         }
 
         private static int any(int left, int right) {
@@ -910,7 +903,7 @@ public final class SlowPaths {
             if (left == 0 && right == 0) {
                 return 0;
             }
-            return endsAt(left) == 0 && endsAt(right) == 0 ? 2 : 3;
+            return 2 + ((left | right) & 1);
         }
 
         private static int swapped(int level) {
@@ -1016,6 +1009,15 @@ public final class SlowPaths {
         boolean provesPath(int pair, int path, int rises) {
             long proven = rises == 1 ? risers[pair] : fallers[pair];
             return ((proven >> path) & 1) == 1;
+        }
+
+        boolean canProve(int path, int rises) {
+            for (int pair = 0; pair < PAIRS; pair++) {
+                if (provesPath(pair, path, rises)) {
+                    return true;
+                }
+            }
+            return false;
         }
 
         int provenPaths() {

@@ -1,14 +1,22 @@
-import java.io.IOException;
+import java.io.PrintWriter;
+import java.io.StringWriter;
 import java.lang.reflect.Field;
 import java.lang.reflect.Method;
 import java.lang.reflect.Modifier;
 import java.nio.file.Files;
 import java.nio.file.Path;
+import java.util.ArrayList;
 import java.util.Arrays;
+import java.util.List;
+import java.util.Map;
+import java.util.Optional;
 import java.util.Set;
+import java.util.TreeMap;
 import java.util.TreeSet;
 import java.util.regex.Matcher;
 import java.util.regex.Pattern;
+import java.util.spi.ToolProvider;
+import java.util.stream.Stream;
 
 /** The face of the class, and those rules of LANGUAGE.md that can be seen from outside or by words. */
 public final class LanguageTest {
@@ -22,10 +30,11 @@ public final class LanguageTest {
         "int drawn(int)", "int keep(int)", "int again(int)", "int count(int)"};
     private static final String[] CONSTANTS = {"UNKNOWN", "OUTSIDE", "STATE", "FULL", "NONE"};
 
-    public static void main(String[] args) throws IOException {
+    public static void main(String[] args) throws Exception {
         methods();
         fields();
         classes();
+        depth();
         words(Files.readString(Path.of(args.length > 0 ? args[0] : "src/main/java/SlowPaths.java")));
         due.end();
     }
@@ -104,5 +113,52 @@ public final class LanguageTest {
             while (end < lines.length - 1 && !lines[end].equals(m.group(1) + "}")) end++;
             due.is(lines[i].trim() + " is sixty lines at most", end - i <= 60 ? 1 : 0, 1);
         }
+    }
+
+    /** Which methods call which, as javap tells it; without javap nothing is looked at. */
+    private static void depth() throws Exception {
+        Optional<ToolProvider> javap = ToolProvider.findFirst("javap");
+        if (javap.isEmpty()) return;
+        Path folder = Path.of(SlowPaths.class.getProtectionDomain().getCodeSource().getLocation().toURI());
+        List<String> asked = new ArrayList<>(List.of("-p", "-c"));
+        try (Stream<Path> files = Files.list(folder)) {
+            files.map(Path::toString).filter(f -> f.matches(".*SlowPaths(\\$\\w+)?\\.class")).forEach(asked::add);
+        }
+        StringWriter told = new StringWriter();
+        javap.get().run(new PrintWriter(told), new PrintWriter(told), asked.toArray(new String[0]));
+        Map<String, Set<String>> calls = callsOf(told.toString());
+        due.is("javap tells of the methods", calls.containsKey("SlowPaths.judge") ? 1 : 0, 1);
+        for (String method : calls.keySet())
+            due.is("calls from " + method + " go eight deep at most", deep(calls, method, 0) <= 8 ? 1 : 0, 1);
+    }
+
+    private static Map<String, Set<String>> callsOf(String told) {
+        Map<String, Set<String>> calls = new TreeMap<>();
+        String owner = "";
+        String method = "";
+        Pattern opens = Pattern.compile("class (SlowPaths\\S*) \\{");
+        Pattern heads = Pattern.compile("^  \\S.*?([\\w$]+)\\(.*\\);$");
+        Pattern goes = Pattern.compile("// Method (?:([\\w$/]+)\\.)?\"?([\\w<>]+)\"?:");
+        for (String line : told.split("\\R")) {
+            Matcher opened = opens.matcher(line), head = heads.matcher(line), call = goes.matcher(line);
+            if (opened.find()) {
+                owner = opened.group(1);
+            } else if (head.find()) {
+                method = owner + "." + (head.group(1).equals(owner) ? "<init>" : head.group(1));
+                calls.putIfAbsent(method, new TreeSet<>());
+            } else if (call.find()) {
+                String to = call.group(1) == null ? owner : call.group(1);
+                if (to.startsWith("SlowPaths")) calls.get(method).add(to + "." + call.group(2));
+            }
+        }
+        return calls;
+    }
+
+    /** How many methods stand open at once, at most; recursion would go on to 99. */
+    private static int deep(Map<String, Set<String>> calls, String method, int open) {
+        int most = 1;
+        if (open < 99)
+            for (String to : calls.getOrDefault(method, Set.of())) most = Math.max(most, 1 + deep(calls, to, open + 1));
+        return most;
     }
 }
