@@ -224,6 +224,11 @@ final class EdgesOfWaves {
         can(new SlowPaths(), 6000, true);
         can(new SlowPaths(), 6001, false);
         e.is("so many are pruned", x.pruned(), 4);
+        // so many that both figures count: no circuit was found of which more are pruned
+        x = Due.told("C4|ac&0b&01&12&23n34|45n65>aaaa");
+        e.is("so many are pruned", x.pruned(), 64);
+        for (int many = 0; many <= 99; many++) can(x, 6000 + many, many <= 64);
+        for (int middle = 1; middle <= 9; middle++) can(x, 6000 + 100 * middle + 10, false);
     }
 
     private void judgePlaces() {
